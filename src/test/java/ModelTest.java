@@ -311,7 +311,7 @@ public final class ModelTest {
             int p = someParcel();
             int one = person();
             int other = person();
-            switch (random.nextInt(13)) {
+            switch (random.nextInt(16)) {
                 case 0: case 1:
                     int area = random.nextInt(4) == 0 ? 1000000000 - upTo(0, 1) : upTo(1, 20);
                     file("found", area >= 1 && area <= 1000000000 && isPerson(one), new int[] {area, one}, 0);
@@ -321,11 +321,11 @@ public final class ModelTest {
                     file("sell", isParcel(p) && isPerson(one) && isPerson(other) && one != other && isFraction(f),
                             new int[] {p, one, other}, f);
                     break;
-                case 5: case 6:
+                case 5: case 6: case 13: case 14:
                     int amount = upTo(1, 3);
                     file("pledge", isParcel(p) && isPerson(one) && amount >= 1, new int[] {p, one, amount}, 0);
                     break;
-                case 7:
+                case 7: case 15:
                     int from = upTo(1, 4);
                     int to = upTo(1, 4);
                     file("rerank", isParcel(p) && isRank(from) && isRank(to) && from != to,

@@ -75,6 +75,13 @@ public final class PromiseTest {
         }
     }
 
+    private static void creditorsAre(LandRegister r, int parcel, int... creditors) {
+        for (int rank = 1; rank <= 4; rank++) {
+            int want = rank <= creditors.length ? creditors[rank - 1] : NONE;
+            due("creditor of rank " + rank, r.mortgage(parcel, rank, 0), want);
+        }
+    }
+
     private static void newObject() {
         LandRegister r = new LandRegister();
         due("NONE", NONE, -1);
@@ -200,9 +207,7 @@ public final class PromiseTest {
         r.pledge(0, 0, 7, 3);
         due("fourth", r.state(r.pledge(0, 0, 2, 4)), 0);
         due("fifth", r.state(r.pledge(0, 0, 2, 5)), 5);
-        due("creditor", r.mortgage(0, 1, 0), 7);
-        due("creditor", r.mortgage(0, 2, 0), 0);
-        due("creditor", r.mortgage(0, 4, 0), 2);
+        creditorsAre(r, 0, 7, 0, 7, 2);
         amountsAre(r, 0, 1, 1000000000, 3, 4);
         due("not living", r.state(r.pledge(0, 1, 0, 1)), 1);
         r.caution(0, 0, 0);
@@ -224,15 +229,18 @@ public final class PromiseTest {
         amountsAre(up, 0, 10, 20, 30, 40);
         due("both consent", up.state(up.rerank(0, 0, 4, 2, 1 << 2 | 1 << 3)), 0);
         amountsAre(up, 0, 10, 40, 20, 30);
-        due("creditor", up.mortgage(0, 2, 0), 4);
+        creditorsAre(up, 0, 1, 4, 2, 3);
         LandRegister down = withMortgages(1, 2, 3, 4);
         due("those that gain need not consent", down.state(down.rerank(0, 0, 1, 3, 1 << 1)), 0);
         amountsAre(down, 0, 20, 30, 10, 40);
+        creditorsAre(down, 0, 2, 3, 1, 4);
         LandRegister without = withMortgages(1, 2, 3, 4);
         due("all consent but the one", without.state(without.rerank(0, 0, 1, 3, ~(1 << 1))), 7);
         LandRegister gains = withMortgages(1, 2, 1, 4);
         due("also gains", gains.state(gains.rerank(0, 0, 1, 3, 0)), 0);
         amountsAre(gains, 0, 20, 30, 10, 40);
+        LandRegister next = withMortgages(1, 1, 3, 4);
+        due("the next one gains", next.state(next.rerank(0, 0, 1, 3, 0)), 0);
         LandRegister stays = withMortgages(1, 2, 3, 1);
         due("its other one stays", stays.state(stays.rerank(0, 0, 1, 3, 0)), 7);
         LandRegister moved = withMortgages(1, 2, 3, 1);
@@ -268,7 +276,7 @@ public final class PromiseTest {
         due("number", r.release(0, 0, 2), 5);
         due("state", r.state(5), 0);
         amountsAre(r, 0, 10, 30, 40);
-        due("creditor moved up", r.mortgage(0, 2, 0), 3);
+        creditorsAre(r, 0, 1, 3, 4);
         due("no such rank", r.state(r.release(0, 0, 4)), 6);
         r.caution(0, 0, 0);
         due("no caution hinders", r.state(r.release(0, 0, 3)), 0);
@@ -334,7 +342,7 @@ public final class PromiseTest {
         for (int p = 12; p <= 13; p++) {
             due("share", r.share(p, 0), part(3, 4));
             due("share", r.share(p, 3), part(1, 4));
-            due("creditor", r.mortgage(p, 2, 0), 2);
+            creditorsAre(r, p, 1, 2);
             amountsAre(r, p, 10, 20);
             due("cautions", r.cautions(p), 0);
         }
@@ -346,10 +354,15 @@ public final class PromiseTest {
         due("not living", r.state(r.split(0, 0, 1)), 1);
         due("it can't be of its own parts", r.state(r.split(0, 20, 1)), 1);
         due("area 1 has no parts", r.state(r.split(0, 13, 1)), 9);
-        r.caution(0, 12, 1);
+        due("a caution of a part", r.state(r.caution(0, 12, 1)), 0);
         due("caution before part", r.state(r.split(0, 12, 1000)), 2);
         r.lift(0, 12, 1);
         due("a lifted caution", r.state(r.split(0, 12, 98)), 0);
+        LandRegister again = withParcel();
+        again.split(0, 0, 40);
+        again.caution(0, 2, 1);
+        again.view(0, 0);
+        due("a caution of a part, looked at again", again.state(2), 0);
         refused("fact day 1", ARGUMENT, () -> r.split(1, 0, 1));
         refused("fact day -1", ARGUMENT, () -> r.split(-1, 0, 1));
         refused("parcel 80", ARGUMENT, () -> r.split(0, 80, 1));
@@ -417,6 +430,16 @@ public final class PromiseTest {
         due("other order of ranks", order.state(order.merge(0, 6, 7)), 11);
         order.rerank(0, 6, 1, 2, -1);
         due("the same order", order.state(order.merge(0, 6, 7)), 0);
+        LandRegister released = withParcel();
+        released.found(0, 5, 0);
+        released.pledge(0, 0, 1, 10);
+        released.release(0, 0, 1);
+        due("a released mortgage does not count", released.state(released.merge(0, 0, 2)), 0);
+        LandRegister four = withMortgages(1, 2, 3, 4);
+        four.split(0, 0, 50);
+        due("four mortgages", four.state(four.merge(0, 10, 11)), 0);
+        amountsAre(four, 12, 10, 20, 30, 40);
+        creditorsAre(four, 12, 1, 2, 3, 4);
     }
 
     private static void day() {
@@ -622,6 +645,7 @@ public final class PromiseTest {
         }
         due("holding(0, 3)", r.holding(0, 3), NONE);
         due("holding(0, -1)", r.holding(0, -1), NONE);
+        due("parcel 0", withParcel().holding(0, 0), 0);
         due("holding(7, 0)", r.holding(7, 0), 2);
         due("holding(7, 1)", r.holding(7, 1), 4);
         due("holding(7, 2)", r.holding(7, 2), NONE);
