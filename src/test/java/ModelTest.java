@@ -8,8 +8,9 @@ import java.util.Random;
 import java.util.TreeMap;
 
 /**
- * Runs of calls from fixed seeds, every answer beside that of a slow model written from the
- * document alone: whole fractions of any size, a new land for every look.
+ * Runs of calls from fixed seeds, every answer beside that of a slow model made in another way:
+ * fractions of any size, a new land for every look. It finds slips, not a wrong reading of the
+ * document, since the reading is the same.
  */
 public final class ModelTest {
     private static final int RUNS = 4000;
