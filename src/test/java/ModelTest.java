@@ -14,10 +14,13 @@ import java.util.TreeMap;
  */
 public final class ModelTest {
     private static final int RUNS = 4000;
-    private static final int CALLS = 300;
+    /** An object is used for at most 512 calls, and one step of a run makes at most 5. */
+    private static final int CALLS = 512 - 5;
     private static final BigInteger FINEST = BigInteger.valueOf(1000000);
     private static int wrong = 0;
     private static final int[] reasonsSeen = new int[12];
+    private static int refusedDays = 0;
+    private static int refusedDeeds = 0;
 
     private record Fraction(BigInteger num, BigInteger den) {
         static final Fraction ZERO = of(0, 1);
@@ -212,12 +215,15 @@ public final class ModelTest {
         /** In wild runs arguments reach past their bounds; in tame ones deeds mostly fit. */
         final boolean wild;
         final boolean fine;
+        /** Runs with long waits come to day 60, the others to 40 deeds. */
+        final boolean slow;
 
         Run(long seed) {
             this.seed = seed;
             this.random = new Random(seed);
             this.wild = seed % 3 == 0;
             this.fine = seed % 5 == 0;
+            this.slow = seed % 4 == 0;
         }
 
         int upTo(int low, int high) {
@@ -267,6 +273,7 @@ public final class ModelTest {
                 want = "IllegalArgumentException";
             } else if (deeds.size() == 40) {
                 want = "IllegalStateException";
+                refusedDeeds++;
             } else {
                 want = (long) deeds.size();
                 deeds.add(new Deed(deeds.size(), today, fact, kind, a, fraction));
@@ -358,6 +365,8 @@ public final class ModelTest {
                 today++;
                 want = (long) today;
                 view = new View(deeds, today, today);
+            } else {
+                refusedDays++;
             }
             due("day()", answer(register::day), want);
         }
@@ -430,7 +439,9 @@ public final class ModelTest {
             int calls = 0;
             while (calls < CALLS) {
                 int kind = random.nextInt(10);
-                if (kind < 4) {
+                if (slow && kind < 3) {
+                    nextDay();
+                } else if (kind < 4) {
                     fileOne();
                 } else if (kind == 4) {
                     nextDay();
@@ -470,7 +481,12 @@ public final class ModelTest {
                 wrong++;
             }
         }
-        System.out.println("how often each reason came: " + Arrays.toString(reasonsSeen));
+        if (refusedDays == 0 || refusedDeeds == 0) {
+            System.out.println("the runs never came to the last day, or never to 40 deeds");
+            wrong++;
+        }
+        System.out.println("how often each reason came: " + Arrays.toString(reasonsSeen) + "; refused days: "
+                + refusedDays + ", deeds: " + refusedDeeds);
         System.out.println(wrong == 0 ? RUNS + " runs are as due" : wrong + " answers are not as due");
         if (wrong != 0) {
             System.exit(1);

@@ -1,87 +1,5 @@
 /** Each promise of the document by itself: ordinary inputs, edges, wrong inputs. */
-public final class PromiseTest {
-    private static final Class<?> ARGUMENT = IllegalArgumentException.class;
-    private static final Class<?> STATE = IllegalStateException.class;
-    private static final Class<?> INDEX = IndexOutOfBoundsException.class;
-    private static final int NONE = LandRegister.NONE;
-    private static int wrong = 0;
-    private static String promise = "";
-
-    private interface Call {
-        long make();
-    }
-
-    private static void due(String what, long got, long want) {
-        if (got != want) {
-            wrong++;
-            System.out.println(promise + ": " + what + " answered " + got + ", due is " + want);
-        }
-    }
-
-    private static void refused(String what, Class<?> due, Call call) {
-        String got;
-        try {
-            got = "answered " + call.make();
-        } catch (RuntimeException e) {
-            if (e.getClass() == due) {
-                return;
-            }
-            got = "threw " + e.getClass().getSimpleName();
-        }
-        wrong++;
-        System.out.println(promise + ": " + what + " " + got + ", due is " + due.getSimpleName());
-    }
-
-    private static long part(long numerator, long denominator) {
-        return numerator << 32 | denominator & 0xFFFFFFFFL;
-    }
-
-    private static LandRegister onDay(int day) {
-        LandRegister r = new LandRegister();
-        for (int d = 0; d < day; d++) {
-            r.day();
-        }
-        return r;
-    }
-
-    /** Parcel 0, of area 100, is person 0's. */
-    private static LandRegister withParcel() {
-        LandRegister r = new LandRegister();
-        r.found(0, 100, 0);
-        return r;
-    }
-
-    /** Parcel 0 with mortgages of the given creditors; the amounts are 10, 20, 30, 40 by rank. */
-    private static LandRegister withMortgages(int... creditors) {
-        LandRegister r = withParcel();
-        for (int m = 0; m < creditors.length; m++) {
-            r.pledge(0, 0, creditors[m], 10 * (m + 1));
-        }
-        return r;
-    }
-
-    private static LandRegister full() {
-        LandRegister r = new LandRegister();
-        for (int d = 0; d < 40; d++) {
-            due("found no. " + d, r.found(0, 1, 0), d);
-        }
-        return r;
-    }
-
-    private static void amountsAre(LandRegister r, int parcel, int... amounts) {
-        for (int rank = 1; rank <= 4; rank++) {
-            int want = rank <= amounts.length ? amounts[rank - 1] : NONE;
-            due("amount of rank " + rank, r.mortgage(parcel, rank, 1), want);
-        }
-    }
-
-    private static void creditorsAre(LandRegister r, int parcel, int... creditors) {
-        for (int rank = 1; rank <= 4; rank++) {
-            int want = rank <= creditors.length ? creditors[rank - 1] : NONE;
-            due("creditor of rank " + rank, r.mortgage(parcel, rank, 0), want);
-        }
-    }
-
+public final class PromiseTest extends Checks {
     private static void newObject() {
         LandRegister r = new LandRegister();
         due("NONE", NONE, -1);
@@ -720,11 +638,6 @@ public final class PromiseTest {
         due("still 40 parcels", r.view(1, 1), 40);
     }
 
-    private static void check(String name, Runnable test) {
-        promise = name;
-        test.run();
-    }
-
     public static void main(String[] args) {
         check("promise 1", PromiseTest::newObject);
         check("promise 2", PromiseTest::found);
@@ -748,9 +661,6 @@ public final class PromiseTest {
         check("promise 19", PromiseTest::holding);
         check("promise 20", PromiseTest::owed);
         check("promise 21", PromiseTest::state);
-        System.out.println(wrong == 0 ? "all promises are kept" : wrong + " answers are not as due");
-        if (wrong != 0) {
-            System.exit(1);
-        }
+        end("all promises are kept");
     }
 }
